@@ -247,7 +247,12 @@ public final class SleeperBerths {
 
     public long digest() {
         long hash = 2999L;
-        hash = mixCountsAndSettings(hash);
+        for (int what = 0; what < COUNTS; what++) {
+            hash = mix(hash, count(what));
+        }
+        for (int index = 0; index < SETTINGS; index++) {
+            hash = mix(hash, read(train.settings, index));
+        }
         hash = mixCoaches(hash);
         hash = mixPassengers(hash);
         hash = mixWays(hash);
@@ -269,17 +274,6 @@ public final class SleeperBerths {
     }
 
     // ---- the digest, part by part
-
-    private long mixCountsAndSettings(long start) {
-        long hash = start;
-        for (int what = 0; what < COUNTS; what++) {
-            hash = mix(hash, count(what));
-        }
-        for (int index = 0; index < SETTINGS; index++) {
-            hash = mix(hash, read(train.settings, index));
-        }
-        return hash;
-    }
 
     private long mixCoaches(long start) {
         long hash = start;
@@ -599,7 +593,8 @@ public final class SleeperBerths {
         }
 
         int at(int row, int property) {
-            return read(cells, row * KEPT_PROPERTIES + property);
+            int cell = row * KEPT_PROPERTIES + property;
+            return cell >= 0 && cell < cells.length ? cells[cell] : NONE;
         }
 
         private void put(int row, int property, int value) {

@@ -219,6 +219,17 @@ public final class EdgesOfLooks {
         Check.due("one of them in one berth", x.count(2), 1);
         x.undo();
         Check.due("undone", x.count(2), 2);
+        SleeperBerths y = States.withOneWhoChanges();
+        for (int number = 0; number <= 17; number++) {
+            Check.due("the last of " + y.count(0), y.count(2), 1);
+            y.cancel(number);
+        }
+        Check.due("the only one", y.count(2), 1);
+        SleeperBerths z = States.full();
+        for (int number = 0; number <= 16; number++) {
+            z.cancel(number);
+        }
+        Check.due("the only one paid through", z.count(1), 1);
     }
 
     private static void countWokenAndTips() {

@@ -117,7 +117,11 @@ public final class EdgesOfTexts {
         Check.due("firstError()", x.firstError(), 2);
         x.append('2');
         Check.due("one passenger", x.bookAll(), 1);
-        Check.due("not paid through by an old sign", x.passenger(0, 3), 0);
+        SleeperBerths y = States.written("0-1!;2-3!");
+        y.clearBuffer();
+        States.write(y, "0-2");
+        Check.due("one passenger", y.bookAll(), 1);
+        Check.due("not paid through by a sign that was cleared", y.passenger(0, 3), 0);
     }
 
     // ---- promise 10
@@ -285,6 +289,11 @@ public final class EdgesOfTexts {
         States.write(x, "0-1");
         Check.due("none", x.bookAll(), 0);
         Check.due("the buffer", x.clearBuffer(), 0);
+        SleeperBerths y = States.written("0-1!;2-3!");
+        y.bookAll();
+        States.write(y, "0-2;2-4");
+        Check.due("two more", y.bookAll(), 2);
+        Check.due("those who paid through, not by a sign that was cleared", y.count(1), 2);
     }
 
     private static void allReturns() {

@@ -15,6 +15,7 @@ public final class EdgesOfWhatWouldBe {
         whyFromAndTo();
         whyFound();
         whyNoCoach();
+        whyOneCoachFull();
         whyNoBerthOnALeg();
         whyNotOnAll();
         whyFirstThatApplies();
@@ -213,6 +214,21 @@ public final class EdgesOfWhatWouldBe {
                     Check.due("whyNot(" + from + ", 9), as far as " + farthest, x.whyNot(from, 9), farthest == 9 ? 0 : 1);
                 }
             }
+        }
+    }
+
+    private static void whyOneCoachFull() {
+        Check.sentence("1: no coach goes so far; 2: on some leg of the way no berth can be had");
+        for (int coach = 0; coach <= 2; coach++) {
+            SleeperBerths x = new SleeperBerths();
+            for (int other = 0; other <= 2; other++) {
+                x.cut(other, other == coach ? 6 : 5);
+            }
+            States.bookTimes(x, 6, 5, 6);
+            Check.due("coach " + coach + " alone goes so far, but is full there", x.whyNot(0, 6), 2);
+            Check.due("coach " + coach + " alone, the leg alone", x.whyNot(5, 6), 2);
+            Check.due("up to there", x.whyNot(0, 5), 0);
+            Check.due("farther none goes", x.whyNot(0, 7), 1);
         }
     }
 

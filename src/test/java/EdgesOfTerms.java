@@ -9,6 +9,7 @@ public final class EdgesOfTerms {
         neighbours();
         coachEnds();
         numbers();
+        wayStays();
         oneBerthOrTwo();
         notThreeBerths();
         noBerthTwice();
@@ -155,6 +156,33 @@ public final class EdgesOfTerms {
         y.bookAll();
         y.cancel(0);
         Check.due("one who is refused or left out has no number", y.book(0, 1, true), 18);
+    }
+
+    private static void wayStays() {
+        Check.sentence("A passenger ... goes from a station to a later one, and has paid through, or not.");
+        for (int from = 0; from <= 8; from++) {
+            for (int to = from + 1; to <= 9; to++) {
+                SleeperBerths x = new SleeperBerths();
+                int unpaid = States.seat(x, from, to, 17);
+                int paid = x.book(from, to, true);
+                x.place(unpaid, 9);
+                x.rebook(unpaid);
+                x.place(paid, x.passenger(1, 4));
+                x.cut(2, 1);
+                x.set(2, 50);
+                x.undo();
+                for (int place = 0; place <= 1; place++) {
+                    Check.due("the first station", x.passenger(place, 1), from);
+                    Check.due("the last one", x.passenger(place, 2), to);
+                    Check.due("paid through", x.passenger(place, 3), place);
+                }
+            }
+        }
+        SleeperBerths y = States.withOneWhoChanges();
+        y.rebook(18);
+        Check.due("one who changes, the first station", y.passenger(18, 1), 0);
+        Check.due("one who changes, the last one", y.passenger(18, 2), 9);
+        Check.due("one who changes has not paid through", y.passenger(18, 3), 0);
     }
 
     private static void oneBerthOrTwo() {

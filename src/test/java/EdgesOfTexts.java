@@ -7,6 +7,7 @@ public final class EdgesOfTexts {
         appendReturns();
         appendFull();
         appendNamedFirst();
+        bufferOfSixty();
         clearReturns();
         clearForgets();
         errorAtEachPlace();
@@ -15,6 +16,9 @@ public final class EdgesOfTexts {
         errorNone();
         errorOfAnyLength();
         errorFirstOfSeveral();
+        errorFromLeftToRight();
+        textOfParts();
+        textWithOneSeparator();
         allEachWay();
         allOneAfterTheOther();
         allLeftOutAsRefused();
@@ -84,6 +88,26 @@ public final class EdgesOfTexts {
         for (int code : wrong) {
             Check.refused("a full buffer, append(" + code + ")", Check.ARGUMENT, () -> States.written(repeated('0', 60)), x -> x.append(code));
         }
+    }
+
+    private static void bufferOfSixty() {
+        Check.sentence("The buffer has at most 60 characters.");
+        SleeperBerths x = States.written(FIFTEEN + "!");
+        for (int time = 0; time < 100; time++) {
+            Check.dueTold("one more", Check.told(x, y -> y.append(';')), "throws.IllegalStateException");
+        }
+        Check.due("firstError()", x.firstError(), 60);
+        Check.due("none of them counts", x.bookAll(), 15);
+        Check.due("the last one alone has paid through", x.count(1), 1);
+        Check.due("the longest text that paid through throughout", States.written(repeated("0-1!;", 12).substring(0, 59)).bookAll(), 12);
+    }
+
+    private static String repeated(String part, int times) {
+        StringBuilder text = new StringBuilder();
+        for (int time = 0; time < times; time++) {
+            text.append(part);
+        }
+        return text.toString();
     }
 
     private static String repeated(char sign, int times) {
@@ -206,6 +230,64 @@ public final class EdgesOfTexts {
         Check.due("a sign ahead of ;", States.written("0-1;!2-3").firstError(), 4);
         Check.due("a minus station", States.written("-1-3").firstError(), 0);
         Check.due("two digits", States.written("10-11").firstError(), 1);
+    }
+
+    private static void errorFromLeftToRight() {
+        Check.sentence("The buffer is read from left to right");
+        String[] wrong = {"9", "3;", "3-3", "3-45", "3-4!!", "3-4;;", "3-4;9"};
+        for (String text : wrong) {
+            SleeperBerths x = States.written(text);
+            int index = text.length() - 1;
+            Check.due("firstError() of " + text, x.firstError(), index);
+            String behind = ";0-1!;0-1-9;;";
+            for (int length = 1; length <= behind.length(); length++) {
+                x.append(behind.charAt(length - 1));
+                Check.due("firstError() of " + text + behind.substring(0, length), x.firstError(), index);
+            }
+        }
+    }
+
+    // ---- the input text
+
+    private static void textOfParts() {
+        Check.sentence("Passengers as a text are one or more parts");
+        Check.refused("no part", Check.ARGUMENT, SleeperBerths::new, SleeperBerths::bookAll);
+        Check.refused("no part, as the buffer was cleared", Check.ARGUMENT, EdgesOfTexts::clearedBuffer, SleeperBerths::bookAll);
+        Check.refused("no part, as they were booked", Check.ARGUMENT, EdgesOfTexts::bookedBuffer, SleeperBerths::bookAll);
+        for (int parts = 1; parts <= 12; parts++) {
+            String text = repeated("2-7!;", parts).substring(0, 5 * parts - 1);
+            Check.due("bookAll() of " + text, States.written(text).bookAll(), parts);
+        }
+    }
+
+    private static SleeperBerths clearedBuffer() {
+        SleeperBerths x = States.written("0-1;2-3!");
+        x.clearBuffer();
+        return x;
+    }
+
+    private static SleeperBerths bookedBuffer() {
+        SleeperBerths x = States.written("0-1;2-3!");
+        x.bookAll();
+        return x;
+    }
+
+    private static void textWithOneSeparator() {
+        Check.sentence("with \";\" between them");
+        for (char code = 33; code <= 126; code++) {
+            for (String first : new String[] {"0-1", "0-1!"}) {
+                String text = first + code + "2-3";
+                if (code == ';') {
+                    Check.due("bookAll() of " + text, States.written(text).bookAll(), 2);
+                } else {
+                    Check.refused("bookAll() of " + text, Check.ARGUMENT, () -> States.written(text), SleeperBerths::bookAll);
+                }
+            }
+        }
+        String[] wrong = {";", ";;", ";0-1", "0-1;", "0-1!;", "0-1;;2-3", "0-1!;;2-3!", "0-1;2-3;", "0-12-3", "0-1!2-3"};
+        for (String text : wrong) {
+            Check.refused("bookAll() of " + text, Check.ARGUMENT, () -> States.written(text), SleeperBerths::bookAll);
+        }
     }
 
     // ---- promise 11

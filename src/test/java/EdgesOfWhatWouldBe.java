@@ -12,6 +12,7 @@ public final class EdgesOfWhatWouldBe {
         ifWoken();
         ifForty();
         ifAsBooked();
+        ifPaidThrough();
         whyFromAndTo();
         whyFound();
         whyNoCoach();
@@ -19,9 +20,11 @@ public final class EdgesOfWhatWouldBe {
         whyNoBerthOnALeg();
         whyNotOnAll();
         whyFirstThatApplies();
+        whyAsBooked();
         farthestFrom();
         farthestGreatest();
         farthestNone();
+        farthestAsBooked();
         fullnessEmptyAndFull();
         fullnessDivided();
         digestStart();
@@ -162,6 +165,21 @@ public final class EdgesOfWhatWouldBe {
         }
     }
 
+    private static void ifPaidThrough() {
+        Check.sentence("whether the passenger would have paid through");
+        for (int from = 0; from <= 7; from++) {
+            for (int to = from + 2; to <= 9; to++) {
+                for (int station = from + 1; station < to; station++) {
+                    SleeperBerths x = States.byDay("6: " + station + "-9", "13: 0-" + station);
+                    ifBookedIs("paid through", x, from, to, true, 0, NONE, NONE, NONE);
+                    ifBookedIs("not paid through", x, from, to, false, 2, 6, station, 0);
+                    ifBookedIs("up to there, paid through", x, from, station, true, 1, 6, NONE, 0);
+                    ifBookedIs("up to there, not paid through", x, from, station, false, 1, 6, NONE, 0);
+                }
+            }
+        }
+    }
+
     // ---- promise 20
 
     private static void whyFromAndTo() {
@@ -291,6 +309,53 @@ public final class EdgesOfWhatWouldBe {
         Check.due("2 and 3", y.whyNot(0, 9), 2);
     }
 
+    private static final Check.Start[] STARTS = {
+        SleeperBerths::new,
+        States::full,
+        States::mixed,
+        States::withOneWhoChanges,
+        () -> States.crowd(17),
+        () -> States.crowd(39),
+        () -> States.byDay("3: 4-9", "8: 0-5"),
+        () -> States.byDay("0: 5-9", "1: 0-3 3-9", "8: 0-4", "13: 2-6"),
+        EdgesOfWhatWouldBe::cutInSteps,
+    };
+
+    private static SleeperBerths cutInSteps() {
+        SleeperBerths x = new SleeperBerths();
+        x.cut(0, 3);
+        x.cut(1, 6);
+        x.cut(2, 8);
+        States.bookTimes(x, 6, 6, 8);
+        x.cancel(2);
+        States.seat(x, 6, 7, 14);
+        return x;
+    }
+
+    /** Books one who has paid through and takes it back; the answer is whether that was to be had. */
+    private static boolean canBeBooked(SleeperBerths x, int from, int to) {
+        boolean isBooked = !Check.told(x, y -> y.book(from, to, true)).startsWith("throws.");
+        if (isBooked) {
+            x.undo();
+        }
+        return isBooked;
+    }
+
+    private static void whyAsBooked() {
+        Check.sentence("Tells why no berth would be found for a passenger who has paid through.");
+        for (int start = 0; start < STARTS.length; start++) {
+            SleeperBerths x = STARTS[start].make();
+            for (int from = 0; from <= 8; from++) {
+                for (int to = from + 1; to <= 9; to++) {
+                    String way = "state " + start + ", " + from + "-" + to;
+                    boolean isFound = x.whyNot(from, to) == 0;
+                    Check.due(way + ", found and booked", isFound ? 1 : 0, canBeBooked(x, from, to) ? 1 : 0);
+                    Check.due(way + ", found and would be booked", isFound ? 1 : 0, x.ifBooked(from, to, true, 0));
+                }
+            }
+        }
+    }
+
     // ---- promise 21
 
     private static void farthestFrom() {
@@ -339,6 +404,20 @@ public final class EdgesOfWhatWouldBe {
             for (int other = 0; other <= 8; other++) {
                 int want = other > from ? 9 : from;
                 Check.due("leg " + from + " full, farthest(" + other + ")", x.farthest(other), want);
+            }
+        }
+    }
+
+    private static void farthestAsBooked() {
+        Check.sentence("Finds the longest way that could still be booked by one who has paid through.");
+        for (int start = 0; start < STARTS.length; start++) {
+            SleeperBerths x = STARTS[start].make();
+            for (int from = 0; from <= 8; from++) {
+                int farthest = from;
+                for (int to = from + 1; to <= 9; to++) {
+                    farthest = canBeBooked(x, from, to) ? to : farthest;
+                }
+                Check.due("state " + start + ", farthest(" + from + ")", x.farthest(from), farthest);
             }
         }
     }
